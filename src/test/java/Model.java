@@ -89,6 +89,14 @@ final class Model {
         heard[calls.get(token)]++;
     }
 
+    int deadEnds() {
+        int quantity = 0;
+        for (int place = 0; place < places(); place++) {
+            quantity += from(place).isEmpty() ? 1 : 0;
+        }
+        return quantity;
+    }
+
     int differentCalls() {
         return new TreeSet<>(calls).size();
     }

@@ -21,6 +21,7 @@ public final class PromisesTest {
         places();
         ownersAndCalls();
         moves();
+        fullGame();
         exchange();
         token();
         undoAndSave();
@@ -53,6 +54,7 @@ public final class PromisesTest {
         Due.illegal("3: beyond the buffer", () -> game.load(Integer.MAX_VALUE));
         Due.illegal("3: beyond the buffer", () -> game.load(Integer.MIN_VALUE));
         game.lay(3);
+        game.save(0);
         game.save(1);
         game.writePlaces();
         Due.refused("3: the whole buffer is wrong", () -> game.load(600));
@@ -70,13 +72,47 @@ public final class PromisesTest {
         Due.is("4: no error", 0, () -> game.errorCode());
         Due.is("5: no position", -1, () -> game.errorPosition());
         Due.refused("3: no change can be undone", () -> game.undo());
+        Due.refused("3: nothing is saved", () -> game.restore(0));
         Due.refused("3: nothing is saved", () -> game.restore(1));
+        Due.is("3: nothing is saved", 1, () -> game.save(1));
         Due.is("3: the output buffer stays", (int) 'e', () -> game.outputByte(0));
         Due.illegal("3: the buffer is emptied behind a load", () -> game.load(1));
         Due.refused("3: an empty text", () -> game.load(0));
         Due.is("4: an empty text", 1, () -> game.errorCode());
         Due.is("5: an empty text", 0, () -> game.errorPosition());
         undoBehindWrongText();
+        parts();
+    }
+
+    /** Only the first bytes are read, whatever stands behind them. */
+    private static void parts() {
+        String text = "game; even 123; odd 4      ";
+        int[] lengths = {4, 5, 6, 8, 10, 11, 12, 13, 14, 15, 17, 19, 20, 21, 23};
+        int[] codes = {6, 1, 1, 1, 1, 1, 0, 2, 2, 2, 2, 2, 2, 2, 2};
+        int[] positions = {4, 5, 6, 6, 10, 11, -1, 11, 11, 11, 11, 11, 11, 11, 11};
+        for (int i = 0; i < lengths.length; i++) {
+            int one = i;
+            ParityGame game = new ParityGame();
+            Due.feed(game, text);
+            Object due = codes[i] == 0 ? (Object) 1 : "throws.IllegalStateException";
+            Due.is("3: length " + lengths[i], due, () -> game.load(lengths[one]));
+            Due.is("4: length " + lengths[i], codes[i], () -> game.errorCode());
+            Due.is("5: length " + lengths[i], positions[i], () -> game.errorPosition());
+        }
+        String[] ends = {" ", "\n", "7", "a", ";", "?"};
+        int[] code = {0, 0, 1, 1, 1, 1};
+        int[] position = {-1, -1, 596, 597, 600, 597};
+        for (int i = 0; i < ends.length; i++) {
+            int one = i;
+            String spaces = "game; even 1" + " ".repeat(584);
+            String whole = spaces + (i == 2 ? "1117" : i == 4 ? "   ;" : " " + ends[i] + ends[i] + ends[i]);
+            ParityGame game = new ParityGame();
+            Due.feed(game, whole);
+            Object due = code[i] == 0 ? (Object) 1 : "throws.IllegalStateException";
+            Due.is("3: 600 bytes, " + i, due, () -> game.load(600));
+            Due.is("4: 600 bytes, " + i, code[one], () -> game.errorCode());
+            Due.is("5: 600 bytes, " + i, position[one], () -> game.errorPosition());
+        }
     }
 
     private static void undoBehindWrongText() {
@@ -386,13 +422,13 @@ public final class PromisesTest {
     /** 20 places, 60 moves, none from place 19. */
     private static ParityGame full() {
         ParityGame game = new ParityGame();
-        while (game.size(0) < 20) {
-            game.addPlace(0, game.size(0) % 10 == 9 ? 8 : 3);
+        for (int place = 4; place < 20; place++) {
+            game.addPlace(0, place % 10 == 9 ? 8 : 3);
         }
-        for (int i = 0; game.size(1) < 60; i++) {
+        for (int i = 0; i < 80; i++) {
             int from = i % 19;
             int to = i / 19;
-            if (game.moveBetween(from, to) < 0) {
+            if (game.moveBetween(from, to) < 0 && game.size(1) < 60) {
                 game.addMove(from, to);
             }
         }
@@ -478,6 +514,26 @@ public final class PromisesTest {
                 () -> Due.state(game));
         Due.missing("37: move 6", () -> game.preferMove(6));
         Due.missing("37: move -1", () -> game.preferMove(-1));
+    }
+
+    private static void fullGame() {
+        ParityGame full = full();
+        Due.is("36: the last of 60", 59, () -> full.removeMove(59));
+        full.undo();
+        Due.is("36: the first of 60", 59, () -> full.removeMove(0));
+        full.undo();
+        int last = full.move(59, 0);
+        Due.is("37: the last of 60", last, () -> full.preferMove(59));
+        Due.is("32: no moves of 60", 0, () -> full.removePlace(19));
+        Due.is("32: all others stay", 60, () -> full.size(1));
+        full.undo();
+        int itself = full.moveBetween(0, 0) < 0 ? 0 : 1;
+        Due.is("32: the first of 20", full.place(0, 2) + full.place(0, 3) - itself, () -> full.removePlace(0));
+        full.undo();
+        full.setCall(19, 4);
+        Due.is("38: twenty places", 9, () -> full.exchange());
+        Due.is("38: the last one", 1, () -> full.place(19, 0));
+        Due.is("38: the last one", 5, () -> full.place(19, 1));
     }
 
     private static void exchange() {

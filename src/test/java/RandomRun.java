@@ -35,9 +35,80 @@ final class RandomRun {
             String all = name + " " + calls;
             Due.is(all, due, () -> answer(what, one, two));
             Due.is(all + " state", stateOf(model), () -> Due.state(game));
+            ask(all);
             if (i % 10 == 0) {
                 Due.is(all + " written", model.written(), () -> Due.written(game));
             }
+        }
+    }
+
+    /** A few of the other calls in any order, so that each comes right behind a change and behind each other one. */
+    private void ask(String all) {
+        int quantity = chance.below(4);
+        for (int i = 0; i < quantity; i++) {
+            int what = chance.below(22);
+            int player = chance.below(2);
+            int a = chance.below(model.places());
+            int b = chance.below(model.places());
+            int call = chance.below(10);
+            int set = chance.below(1 << model.places());
+            Object due = told(what, player, a, b, call, set);
+            Due.is(all + " asked " + what + " " + player + " " + a + " " + b + " " + call + " " + set, due,
+                    () -> asked(what, player, a, b, call, set));
+        }
+    }
+
+    private Object asked(int what, int player, int a, int b, int call, int set) {
+        switch (what) {
+            case 0: return game.won(player);
+            case 1: return game.wonShare(player);
+            case 2: return game.meanCall(player);
+            case 3: return game.plan(a);
+            case 4: return game.follow(a, b);
+            case 5: return game.play(a, call % 3);
+            case 6: return game.pull(player, set);
+            case 7: return game.pullIn(a, player, set);
+            case 8: return game.stay(player, set);
+            case 9: return game.comeBack(player, set);
+            case 10: return game.isTrap(player, set);
+            case 11: return game.canHear(player, call);
+            case 12: return game.wonIfCall(a, call);
+            case 13: return game.wonIfOther(a);
+            case 14: return game.wonWith(a, b);
+            case 15: return game.leastCall(player, a, b);
+            case 16: return game.neededMoves();
+            case 17: return game.keyPlace();
+            case 18: return game.place(a, 4);
+            case 19: return game.size(3);
+            case 20: return game.size(4);
+            default: return model.moves.isEmpty() ? 0 : game.wonWithout(set % model.moves.size());
+        }
+    }
+
+    private Object told(int what, int player, int a, int b, int call, int set) {
+        switch (what) {
+            case 0: return model.won(player);
+            case 1: return (float) Integer.bitCount(model.won(player)) / (float) model.places();
+            case 2: return model.meanCall(player);
+            case 3: return model.plan()[a];
+            case 4: return model.follow(a, b);
+            case 5: return model.play(a, call % 3);
+            case 6: return model.pull(player, set);
+            case 7: return model.pullIn(a, player, set);
+            case 8: return model.stay(player, set);
+            case 9: return model.comeBack(player, set);
+            case 10: return model.isTrap(player, set);
+            case 11: return model.comeBack(player, model.calling(call));
+            case 12: return model.withCall(a, call).won(0);
+            case 13: return model.withOther(a).won(0);
+            case 14: return model.with(a, b).won(0);
+            case 15: return model.leastCall(player, a, b);
+            case 16: return model.neededMoves();
+            case 17: return model.keyPlace();
+            case 18: return model.winner(a);
+            case 19: return model.deadEnds();
+            case 20: return model.differentCalls();
+            default: return model.moves.isEmpty() ? 0 : model.without(set % model.moves.size()).won(0);
         }
     }
 

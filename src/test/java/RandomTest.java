@@ -64,12 +64,8 @@ public final class RandomTest {
     }
 
     static void askPlaces(String name, Model model, ParityGame game) {
-        int dead = 0;
-        for (int place = 0; place < model.places(); place++) {
-            dead += model.from(place).isEmpty() ? 1 : 0;
-        }
         int[] sizes = {model.places(), model.moves.size(), (int) model.owners.stream().filter(o -> o == 0).count(),
-            dead, model.differentCalls(), java.util.Collections.max(model.calls), model.token, model.made};
+            model.deadEnds(), model.differentCalls(), java.util.Collections.max(model.calls), model.token, model.made};
         for (int what = 0; what < 8; what++) {
             int one = what;
             Due.is(name + "size " + what, sizes[what], () -> game.size(one));
