@@ -81,7 +81,28 @@ public final class PromisesTest {
         Due.is("4: an empty text", 1, () -> game.errorCode());
         Due.is("5: an empty text", 0, () -> game.errorPosition());
         undoBehindWrongText();
+        loadAgain();
         parts();
+    }
+
+    /** Nothing of an earlier text, right or wrong, is left in a later one. */
+    private static void loadAgain() {
+        ParityGame game = Due.loaded("game; odd 1 2 3; even 4; move 1 2; move 3 0; token 2");
+        game.setCall(2, 9);
+        game.run(5);
+        Due.feed(game, "game; odd 5 5 5 5; move 0 0; token 3; token 4");
+        Due.refused("3: a wrong text", () -> game.load(45));
+        String due = "e6 o7 @0+0 0 0 0 0 0 0 1 0 0 0";
+        Due.feed(game, "game; even 6; odd 7");
+        Due.is("3: a right one behind it", 2, () -> game.load(19));
+        Due.is("3: nothing of those before", due, () -> Due.state(game));
+        Due.is("3: who wins is found anew", 2, () -> game.won(0));
+        Due.feed(game, "game; odd 6 7; token 1");
+        Due.is("3: a token that lies elsewhere", 2, () -> game.load(22));
+        Due.is("3: a token that lies elsewhere", 1, () -> game.size(6));
+        Due.feed(game, "game; even 6; odd 7");
+        Due.is("3: the same text again", 2, () -> game.load(19));
+        Due.is("3: the token is at place 0", due, () -> Due.state(game));
     }
 
     /** Only the first bytes are read, whatever stands behind them. */
