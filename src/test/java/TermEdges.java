@@ -417,6 +417,7 @@ abstract class TermEdges extends Edge {
             for (int changes = 0; changes <= 31; changes++) {
                 undoAll(changes);
             }
+            undoBetween();
             ParityGame game = rich();
             game.writePlaces();
             String output = output(game);
@@ -458,6 +459,23 @@ abstract class TermEdges extends Edge {
             game.setOwner(0, i % 2);
         }
         is("and again", most == 0 ? "throws.IllegalStateException" : (Object) (most - 1), () -> game.undo());
+    }
+
+    /** Behind an undo, one more change takes the room that has become free: none of the ten is dropped for it. */
+    private static void undoBetween() {
+        ParityGame game = Due.loaded("game; odd 5");
+        for (int i = 0; i < 12; i++) {
+            game.addPlace(0, 0);
+        }
+        is("12 changes, one undone", 9, () -> game.undo());
+        game.addPlace(1, 0);
+        for (int left = 9; left >= 0; left--) {
+            int places = 3 + left;
+            is("12 changes, one undone, one more", left, () -> game.undo());
+            is("12 changes, one undone, one more: places", places, () -> game.size(0));
+        }
+        is("12 changes, one undone, one more", "throws.IllegalStateException", () -> game.undo());
+        is("12 changes, one undone, one more: places", 3, () -> game.size(0));
     }
 
     private static void exceptions() {
